@@ -194,7 +194,9 @@ public final class EyeDrink {
             return refusal;
         }
         trees.grow(false, 0);
-        return trees.regretOf(question, trees.behindNow(question));
+        int behind = trees.behindNow(question);
+        int without = trees.grow(false, 1 << question);
+        return Math.max(0, without - behind);
     }
 
     public int never() {
@@ -696,7 +698,7 @@ public final class EyeDrink {
         final int[] greatest = new int[PLACES];
         final int[] left = new int[MOST];
         final int[] swings = new int[MOST];
-        final int[] behind = new int[MOST];
+        final int[] worstBehind = new int[MOST];
         boolean inMean;
         int barred;
         int base;
@@ -706,7 +708,10 @@ public final class EyeDrink {
             this.now = now;
         }
 
-        /** Fills in what can be had at each place, from the last ones back; answers what can be had now. */
+        /**
+         * Fills in what can be had at each place, from the last ones back, if barred questions
+         * (bits) are never drunk; answers what can be had now.
+         */
         int grow(boolean inMean, int barred) {
             this.inMean = inMean;
             this.barred = barred;
@@ -837,20 +842,17 @@ public final class EyeDrink {
             return 0;
         }
 
-        int regretOf(int question, int worstBehind) {
-            return Math.max(0, grow(false, 1 << question) - worstBehind);
-        }
-
+        /** Questions, as bits, behind which the worst is no less than if they could never be drunk. */
         int unregretted() {
             int drinkable = now.drinkable();
             grow(false, 0);
             // Barring a question fills the places anew, so all of these are looked up ahead of it.
             for (int q = 0; q < well.questions; q++) {
-                behind[q] = (drinkable >> q & 1) == 1 ? behindNow(q) : OUT_OF_REACH;
+                worstBehind[q] = (drinkable >> q & 1) == 1 ? behindNow(q) : OUT_OF_REACH;
             }
             int bits = 0;
             for (int q = 0; q < well.questions; q++) {
-                if ((drinkable >> q & 1) == 1 && regretOf(q, behind[q]) == 0) {
+                if ((drinkable >> q & 1) == 1 && grow(false, 1 << q) <= worstBehind[q]) {
                     bits |= 1 << q;
                 }
             }

@@ -13,8 +13,8 @@ final class Check {
         }
     }
 
-    void holds(String what, boolean true_) {
-        due(what, true_ ? 1 : 0, 1);
+    void holds(String what, boolean itIsSo) {
+        due(what, itIsSo ? 1 : 0, 1);
     }
 
     boolean clean() {

@@ -49,6 +49,9 @@ public final class PricesTest {
     }
 
     private static void keepers(EyeDrink x) {
+        C.due("keeper(1, 7, 0)", x.keeper(1, 7, 0), 7);
+        C.due("keeper(1, 7, 1)", x.keeper(1, 7, 1), 7);
+        C.due("keeper(1, 10, 0)", x.keeper(1, 10, 0), EyeDrink.BAD);
         C.due("keeper(2, 36, 0): 3 twice is 6 once", x.keeper(2, 36, 0), 3);
         C.due("keeper(2, 36, 1)", x.keeper(2, 36, 1), 6);
         C.due("keeper(2, 37, 0)", x.keeper(2, 37, 0), 7);

@@ -5,6 +5,7 @@ public final class SlotsTest {
     public static void main(String[] args) {
         refusals();
         goingOn();
+        givenToday();
         keptOfNothing();
         C.end();
     }
@@ -52,6 +53,27 @@ public final class SlotsTest {
         C.due("again(1), though one went on", x.again(1), 1025);
         C.due("keep(1) anew", x.keep(1), 1025);
         C.due("again(0) once more", x.again(0), 1026);
+    }
+
+    /** What was given on the day itself is kept as such, and so it is when an act is undone. */
+    private static void givenToday() {
+        EyeDrink x = Check.wellOf("ET911Q0310Q0210");
+        x.drink(0);
+        x.keep(0);
+        x.day();
+        x.day();
+        x.again(0);
+        C.due("away", x.thing(0, 4), 3);
+        C.due("not back yet", x.day(), 0);
+        C.due("back", x.day(), 3);
+        x.again(0);
+        x.drink(1);
+        x.undo();
+        C.due("away", x.thing(0, 4), 3);
+        x.day();
+        x.undo();
+        C.due("not back yet", x.day(), 0);
+        C.due("back", x.day(), 3);
     }
 
     private static void keptOfNothing() {

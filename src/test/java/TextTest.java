@@ -113,21 +113,21 @@ public final class TextTest {
     /** At each place of a well each byte is put: what the grammar allows there is no fault there. */
     private static void everyByteOfAWell() {
         String well = "ET120T341Q1217D01517T000";
-        String allowed = "....|T|123456789|0123456789|0123|TQ|123456789|0123456789|0123|TQ|01|123456789|01|0123456789"
+        String allowed = "E|T|123456789|0123456789|0123|TQ|123456789|0123456789|0123|TQ|01|123456789|01|0123456789"
                 + "|TQD|0|01|0123456789|01|0123456789|TQD|123456789";
         String[] at = allowed.split("\\|");
         C.due("fault at the last", Check.faultOf(well), 21);
-        for (int place = 1; place < at.length; place++) {
+        for (int place = 0; place < at.length; place++) {
             for (int letter = 0; letter < 256; letter++) {
                 boolean fits = at[place].indexOf(letter) >= 0;
-                int want = !fits ? place : isEnd(place, letter) ? EyeDrink.NONE : place + 1;
+                int want = !fits ? place : isEnd(place) ? EyeDrink.NONE : place + 1;
                 fault(well.substring(0, place) + (char) letter, want);
             }
         }
     }
 
-    private static boolean isEnd(int place, int letter) {
-        return place == 4 || place == 8 || place == 13 || place == 19;
+    private static boolean isEnd(int place) {
+        return place == 0 || place == 4 || place == 8 || place == 13 || place == 19;
     }
 
     private static void wells() {
@@ -173,5 +173,11 @@ public final class TextTest {
         C.due("all are there", x.thing(0, 3), 5);
         C.due("nothing won", x.about(6), 1010);
         C.due("nothing comes", x.day() + x.day(), 0);
+        x.drink(0);
+        Check.tell(x, "ET521Q0200");
+        C.due("another well on the same day", x.well(), 110);
+        C.due("none was given", x.thing(0, 4), 0);
+        C.due("nothing comes", x.day() + x.day(), 0);
+        C.due("another answer", x.drink(0), 0);
     }
 }

@@ -8,6 +8,7 @@ public final class TreesTest {
         hedges();
         firsts();
         regrets();
+        regretByTheBestWithoutIt();
         shorts();
         nothingChanges();
         C.end();
@@ -21,6 +22,9 @@ public final class TreesTest {
         x.act(3);
         C.due("can(0) behind", x.can(0), 2);
         C.due("can(1) behind", x.can(1), 4);
+        EyeDrink y = Check.wellOf("ET300Q0310D00103");
+        C.due("just enough for the question", y.can(0), 1);
+        C.due("just enough for the deed", y.can(1), 1);
         C.due("can(-1)", x.can(-1), EyeDrink.BAD);
         C.due("can(2)", x.can(2), EyeDrink.BAD);
     }
@@ -123,8 +127,30 @@ public final class TreesTest {
         C.due("y never()", y.never(), 2);
         C.due("y worst(0)", y.worst(0), 1025);
         C.due("y worst(1)", y.worst(1), 2);
+        // three questions that cost nothing of worth are never regretted, the fourth is
+        EyeDrink v = Check.wellOf("ET900T910Q0110Q0210Q1110Q0510D20900");
+        C.due("v never()", v.never(), 11);
+        C.due("v regret(2): one paid, nothing sure won", v.regret(2), 1);
+        v.drink(3);
+        C.due("v never() behind", v.never(), 3);
+        v.drink(1);
+        C.due("v never() behind that", v.never(), 1);
         EyeDrink z = new EyeDrink();
+        C.due("z never()", z.never(), 0);
         C.due("z regret(0)", z.regret(0), EyeDrink.UNKNOWN);
+    }
+
+    /**
+     * Question 1 pays only if the answer of question 0 is 0, so the best tree asks it there
+     * alone: REGRET is by the best without it (1003), not by the best of all (1006).
+     */
+    private static void regretByTheBestWithoutIt() {
+        EyeDrink x = Check.wellOf("ET100T100T210Q0105Q2205D01511D00110D11511D10511");
+        C.due("worst(0)", x.worst(0), 1006);
+        C.due("worst(1)", x.worst(1), 1);
+        C.due("regret(1): 1005 behind it", x.regret(1), 0);
+        C.due("regret(0): 1006 behind it, 1005 without", x.regret(0), 0);
+        C.due("never()", x.never(), 3);
     }
 
     private static void shorts() {
