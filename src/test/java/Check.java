@@ -1,3 +1,5 @@
+import java.util.function.ToIntBiFunction;
+
 /** Counts the answers that are not due; every test makes one. */
 final class Check {
     private int wrong;
@@ -15,6 +17,18 @@ final class Check {
 
     void holds(String what, boolean itIsSo) {
         due(what, itIsSo ? 1 : 0, 1);
+    }
+
+    /**
+     * In wells with none to four like parts behind a start: a call with the number of the last part
+     * answers what is due, with the next number, which no part has, that it is not known.
+     */
+    void knownToTheLast(String name, String start, String part, ToIntBiFunction<EyeDrink, Integer> call, int want) {
+        for (int n = 0; n <= 4; n++) {
+            EyeDrink x = wellOf(start + part.repeat(n));
+            due(name + "(" + n + ") of " + n, call.applyAsInt(x, n), EyeDrink.UNKNOWN);
+            due(name + "(" + (n - 1) + ") of " + n, call.applyAsInt(x, n - 1), n == 0 ? EyeDrink.UNKNOWN : want);
+        }
     }
 
     boolean clean() {
